@@ -20,6 +20,9 @@ public final class LanguageTest {
     ranges();
     orderOfErrors();
     anErrorChangesNothing();
+    nothingOfTheListBefore();
+    nothingOfTheLapBefore();
+    taughtTimeAndAgain();
     whatWasTold();
     countRefuses();
     CHECK.end();
@@ -92,6 +95,9 @@ public final class LanguageTest {
     CHECK.errorAtBar(1, "tongue la|\t ease 1;");
     CHECK.errorAtBar(1, "tongue la|\r ease 1;");
     CHECK.errorAtBar(1, "tongue la|\0 ease 1;");
+    // Nought is a byte as others: it does not end the tape, behind a whole list, either.
+    CHECK.errorAtBar(1, "tongue la ease 1;|\0");
+    CHECK.errorAtBar(1, "|\0\0\0");
     CHECK.errorAtBar(1, "tongue |la_ ease 1;".replace("|la_", "la|_"));
     CHECK.errorAtBar(1, "tongue la|\u00ff ease 1;");
     CHECK.errorAtBar(1, "tongue la|\u00e1 ease 1;");
@@ -376,6 +382,58 @@ public final class LanguageTest {
     Check.teach(bee, "tongue");
     bee.feed(1, 2, 3, 4, 5);
     CHECK.same("errorAt() behind feed", bee.errorAt(), 6);
+  }
+
+  /** A list taught in the place of a longer one plays as it does on a new object. */
+  private static void nothingOfTheListBefore() {
+    String longer = "tongue lb ease 9;tongue la ease 9;root rb of lb letters 9 hard 9;"
+        + "root ra of lb letters 9 hard 9;word wb from rb rb rb ra;word wa from ra rb rb ra;"
+        + "speller sc passes 3 knows la 20 knows lb 20;speller sb passes 3 knows lb 9;speller sa passes 3;"
+        + "speller sd passes 3;round ry toll 9 laps 1 words wb wb wa;round rx toll 9 laps 9 words wb;"
+        + "hint sc when turn >= 0;pass sc when turn >= 0;pass sb when turn >= 0;appeal sc when turn >= 0;";
+    BeeTurnpike bee = Check.taught(longer);
+    bee.award(0, 20);
+    bee.hint();
+    bee.go(2);
+    CHECK.same("teach() of a shorter list", Check.teach(bee, PLAY), 0);
+    BeeTurnpike fresh = Check.taught(PLAY);
+    for (int turn = 0; turn <= 2; turn++) {
+      CHECK.same("the digest of the shorter list behind " + turn, bee.digest(), fresh.digest());
+      CHECK.same("strong(0, 0) of the shorter list", bee.strong(0, 0), fresh.strong(0, 0));
+      CHECK.same("winner() of the shorter list", bee.winner(), fresh.winner());
+      CHECK.same("go(1) of the shorter list", bee.go(1), fresh.go(1));
+    }
+  }
+
+  /** Who went out in a lap that was not ended has nothing of that in the bee that begins anew. */
+  private static void nothingOfTheLapBefore() {
+    String list = "tongue la ease 0;root ra of la letters 1 hard 9;word wa from ra;"
+        + "speller sa passes 1;speller sb passes 0;round ro toll 0 laps 2 words wa;";
+    BeeTurnpike bee = Check.taught(list);
+    bee.go(3);
+    CHECK.same("who is out in the midst of a lap", bee.speller(0, 0), 0);
+    Check.teach(bee, list);
+    bee.skip();
+    bee.go(1);
+    CHECK.same("misses of who passed the word on", bee.speller(0, 2), 0);
+    CHECK.same("misses of who spelled", bee.speller(1, 2), 1);
+  }
+
+  /** Long tests of many lists, with and without an error, do not crowd out one another. */
+  private static void taughtTimeAndAgain() {
+    StringBuilder sum = new StringBuilder("turn");
+    for (int n = 0; n < 100; n++) {
+      sum.append("+1");
+    }
+    String list = PLAY + "hint sa when " + sum + "=100;";
+    BeeTurnpike bee = new BeeTurnpike();
+    for (int n = 0; n < 10; n++) {
+      CHECK.same("teach(), the time " + n, Check.teach(bee, list), 0);
+      bee.award(0, 1);
+      CHECK.same("foresee(1, 13), the time " + n, bee.foresee(1, 13), 1);
+      CHECK.same("teach() with an error, the time " + n, Check.teach(bee, list + "hint sc when in sa;"), 3);
+      CHECK.same("foresee(1, 13) behind an error, the time " + n, bee.foresee(1, 13), 1);
+    }
   }
 
   private static void whatWasTold() {
