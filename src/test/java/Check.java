@@ -46,6 +46,20 @@ final class Check {
     same(what + ", the digest behind it", bee.digest(), before);
   }
 
+  /** What count() tells from this number on. */
+  void counts(BeeTurnpike bee, String when, int from, int... due) {
+    for (int i = 0; i < due.length; i++) {
+      same("count(" + (from + i) + ") " + when, bee.count(from + i), due[i]);
+    }
+  }
+
+  /** What speller() tells by this number of each speller. */
+  void spellers(BeeTurnpike bee, String when, int what, int... due) {
+    for (int s = 0; s < due.length; s++) {
+      same("speller(" + s + ", " + what + ") " + when, bee.speller(s, what), due[s]);
+    }
+  }
+
   void fail(String text) {
     wrong++;
     if (wrong <= 40) {
