@@ -797,6 +797,16 @@ public final class EdgesOfBeeTest extends Lists {
     CHECK.spellers(bee, "by a toll of 6", 0, 0, 0, 1);
     CHECK.same("left by a toll of 6", bee.count(10), 1);
     over(bee, "by a toll of 6, with a further round");
+    // The first one, and the one in the midst, alone.
+    for (int rich = 0; rich <= 2; rich++) {
+      BeeTurnpike one = Check.taught(list(of(0), of(0, 0, 0), 0) + "round o toll 9 laps 1 words w0;"
+          + "round p toll 0 laps 1 words w0;");
+      one.award(rich, 8);
+      one.go(3);
+      String when = "with " + rich + " alone at 9 points";
+      CHECK.spellers(one, when, 0, rich == 0 ? 1 : 0, rich == 1 ? 1 : 0, rich == 2 ? 1 : 0);
+      over(one, when);
+    }
   }
 
   private static void tollOfThoseWhoAreInAlone() {

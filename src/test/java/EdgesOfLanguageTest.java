@@ -37,6 +37,9 @@ public final class EdgesOfLanguageTest extends Lists {
     theFourHundredAndFirst();
     theEndOfTheTape();
     bytesWithWhichNoTokenBegins();
+    bytesBehindAWholeList();
+    theFirstTokenThatCannotBe();
+    tokensInThePlaceOfOthers();
     errorOneGoesFirst();
     theFirstErrorFromTheLeft();
     theSmallestNumberAtOneToken();
@@ -271,8 +274,10 @@ public final class EdgesOfLanguageTest extends Lists {
     for (String keyword : KEYWORDS) {
       CHECK.errorAtBar(1, "tongue |" + keyword + " ease 1;");
       CHECK.fine("tongue " + keyword.substring(0, keyword.length() - 1) + "q ease 1;");
+      CHECK.fine("tongue q" + keyword.substring(1) + " ease 1;");
       if (keyword.length() <= 9) {
         CHECK.fine("tongue " + keyword + "q ease 1;");
+        CHECK.fine("tongue q" + keyword + " ease 1;");
       }
     }
   }
@@ -479,6 +484,94 @@ public final class EdgesOfLanguageTest extends Lists {
     }
   }
 
+  private static void bytesBehindAWholeList() {
+    // Nought, too, is no end of the tape.
+    for (int sign = 0; sign <= 255; sign++) {
+      boolean blank = sign == ' ' || sign == '\n';
+      CHECK.error("tongue t ease 1;" + (char) sign, blank ? 0 : 1, blank ? -1 : 16);
+      CHECK.error((char) sign + "!", 1, blank ? 1 : 0);
+    }
+  }
+
+  // ---- "Error 1: the first token with which the tokens so far are not the beginning of a list."
+
+  private static void theFirstTokenThatCannotBe() {
+    // The end of a line, where more has to come, and a sign where another one has to be.
+    String[] open = {"", "not ", "[", "in a and ", "in a or ", "1 = ", "1 = 1 + ", "1 = 1 * ", "1 = -", "1 = 1 - ",
+        "1 = 1 / ", "1 = (", "1 = (1", "1 = min ", "1 = min(", "1 = min(1", "1 = min(1,", "1 = max(1,2", "in ",
+        "next ", "1 = points ", "1 = hard ", "1", "(1)", "1 = 1 and not "};
+    for (String test : open) {
+      CHECK.errorAtBar(1, HINT + test + "|;");
+      CHECK.errorAtBar(1, HINT + test + "|] ;");
+      CHECK.errorAtBar(1, HINT + test + "|words;");
+      CHECK.error(HINT + test, 1, HINT.length() + test.length());
+    }
+    CHECK.errorAtBar(1, HINT + "[in a|;");
+    CHECK.errorAtBar(1, HINT + "[in a |words;");
+    CHECK.fine(HINT + "[in a];");
+    CHECK.errorAtBar(1, HINT + "min |< 1;");
+    CHECK.errorAtBar(1, HINT + "1 < max |= 1;");
+    CHECK.errorAtBar(1, HINT + "min(1, |) < 1;");
+    CHECK.errorAtBar(1, HINT + "min(|, 1) < 1;");
+    CHECK.errorAtBar(1, HINT + "- |< 1;");
+    CHECK.errorAtBar(1, HINT + "1 + |< 1;");
+    CHECK.errorAtBar(1, HINT + "1 * |< 1;");
+    CHECK.errorAtBar(1, HINT + "( |) < 1;");
+    CHECK.errorAtBar(1, HINT + "not |or in a;");
+    CHECK.errorAtBar(1, HINT + "in a and |and in a;");
+    CHECK.errorAtBar(1, HINT + "in a or |or in a;");
+    CHECK.errorAtBar(1, HINT + "1 = |and in a;");
+    // Lines, each cut by a ; behind each of its tokens but the last.
+    String[] lines = {"tongue u ease 1", "root x of t letters 1 hard 1", "word x from r",
+        "speller x passes 1 knows t 1", "round o toll 0 laps 1 words w", "hint a when in a", "pass a when in a",
+        "appeal a when in a"};
+    for (String line : lines) {
+      CHECK.fine(TWO + line + ";");
+      for (int at = line.indexOf(' '); at >= 0; at = line.indexOf(' ', at + 1)) {
+        boolean whole = line.startsWith("speller x passes 1 knows") && at == "speller x passes 1".length();
+        if (whole) {
+          CHECK.fine(TWO + line.substring(0, at) + ";");
+        } else {
+          CHECK.errorAtBar(1, TWO + line.substring(0, at) + "|;");
+        }
+      }
+    }
+  }
+
+  private static void tokensInThePlaceOfOthers() {
+    String[] symbols = {"(", ")", "[", "]", ";", ",", "+", "-", "*", "/", "<", ">", "=", "<=", ">="};
+    for (String symbol : symbols) {
+      // Where a name, a number and a keyword have to be.
+      CHECK.errorAtBar(1, "tongue |" + symbol + " ease 1;");
+      CHECK.errorAtBar(1, "tongue t ease |" + symbol + ";");
+      CHECK.errorAtBar(1, "tongue t |" + symbol + " 1;");
+      CHECK.errorAtBar(1, HINT + "in |" + symbol + ";");
+      CHECK.errorAtBar(1, "|" + symbol + " t ease 1;");
+    }
+    // Where a symbol has to be: between two sums, behind one, behind min, and at a line's end.
+    for (String token : new String[] {"x", "1", "turn", "in", "when", "!"}) {
+      CHECK.errorAtBar(1, HINT + "1 |" + token + " 2;");
+      CHECK.errorAtBar(1, HINT + "1 < (1 |" + token + ";");
+      CHECK.errorAtBar(1, HINT + "1 < min |" + token + " 1, 2);");
+      CHECK.errorAtBar(1, HINT + "1 < min(1 |" + token + " 2);");
+      CHECK.errorAtBar(1, HINT + "[in a |" + token + ";");
+      CHECK.errorAtBar(1, "tongue t ease 1 |" + token + " ");
+    }
+    // A comparison is one of five signs, a sum has four.
+    for (String symbol : new String[] {"(", ")", "[", "]", ";", ","}) {
+      CHECK.errorAtBar(1, HINT + "1 |" + symbol + " 2;");
+    }
+    for (String symbol : new String[] {"<", ">", "=", "<=", ">="}) {
+      CHECK.fine(HINT + "1 " + symbol + " 2;");
+      CHECK.errorAtBar(1, HINT + "1 " + symbol + " 2 |" + symbol + " 3;");
+      CHECK.errorAtBar(1, HINT + "(1 |" + symbol + " 2);");
+    }
+    for (String symbol : new String[] {"+", "-", "*", "/"}) {
+      CHECK.fine(HINT + "1 " + symbol + " 2 = 1;");
+      CHECK.errorAtBar(1, HINT + "1 " + symbol + " 2|;");
+    }
+  }
+
   // ---- "Only if there is no error 1, keywords, names and numbers are looked at from left to right,
   //      and the first error is told, at its token; of errors at one token the one with the smallest
   //      number."
@@ -608,6 +701,12 @@ public final class EdgesOfLanguageTest extends Lists {
     String twelve = "tongue t ease 1;root r of t letters 1 hard 1;" + lines(12, "word w", " from r;");
     counted(3, 12, twelve);
     CHECK.errorAtBar(4, twelve + "word |x from r;");
+    // The last of them is found, whatever is told behind it.
+    BeeTurnpike bee = Check.taught(twelve + "speller a passes 0;speller b passes 0;"
+        + "round o toll 0 laps 1 words w11 w0;");
+    CHECK.same("the last of twelve words on turn", bee.count(9), 11);
+    CHECK.errorAtBar(2, twelve + "speller a passes 0;word |w11 from r;");
+    CHECK.errorAtBar(3, twelve + "speller a passes 0;round o toll 0 laps 1 words |a;");
   }
 
   private static void tooManySpellers() {
@@ -635,6 +734,20 @@ public final class EdgesOfLanguageTest extends Lists {
     CHECK.fine(TWO + "round o toll 1 laps 1 words w w w w w w w w;");
     CHECK.errorAtBar(4, TWO + "round o toll 1 laps 1 words w w w w w w w w |w;");
     CHECK.errorAtBar(4, TWO + "round o toll 1 laps 1 words w w w w w w w w |w w;");
+    // Five rounds of eight words each: each of the forty is there.
+    StringBuilder list = new StringBuilder(list(of(0, 0, 0, 0, 0, 0, 0, 0), of(0, 0), 0));
+    for (int round = 0; round < 5; round++) {
+      list.append("round o").append(round).append(" toll 0 laps 4 words");
+      for (int place = 0; place < 8; place++) {
+        list.append(" w").append((place * 3 + round) % 8);
+      }
+      list.append(';');
+    }
+    BeeTurnpike bee = Check.taught(list.toString());
+    for (int turn = 0; turn < 40; turn++) {
+      CHECK.same("the word of forty at " + turn, bee.count(9), (turn % 8 * 3 + turn / 8) % 8);
+      bee.go(1);
+    }
     // Of one round, not of all.
     CHECK.fine(TWO + "round o toll 1 laps 1 words w w w w w w w w;round p toll 1 laps 1 words w w w w w w w w;");
     CHECK.errorAtBar(4, TWO + "round o toll 1 laps 1 words w;round p toll 1 laps 1 words w w w w w w w w |w;");

@@ -26,6 +26,7 @@ public final class EdgesOfPromisesTest extends Lists {
     trimFrom0ToTheBytes();
     teachAnswers0To5();
     teachBeginsAnew();
+    teachBeginsAnewInTheMidst();
     teachWithAnErrorLeavesAll();
     errorAtMinusOne();
     countFrom0To17();
@@ -55,6 +56,7 @@ public final class EdgesOfPromisesTest extends Lists {
     foreseeEdges();
     foreseeAsTheBeeIsOver();
     foreseeChangesNothing();
+    foreseeInTheMidst();
     untilNow();
     untilTheEnd();
     untilFarAway();
@@ -68,6 +70,8 @@ public final class EdgesOfPromisesTest extends Lists {
     adviseEachChoice();
     adviseTheSmallestOfSeveral();
     adviseWhatSheCanDo();
+    advisePassOfTheLast();
+    adviseHintOfTheLastPoint();
     adviseOfWhoIsNotTheFirst();
     adviseChangesNothing();
     meanOfNone();
@@ -287,6 +291,47 @@ public final class EdgesOfPromisesTest extends Lists {
     // In the place of all: a list of one tongue leaves no word, no speller, no round.
     Check.teach(bee, "tongue t ease 1;");
     CHECK.counts(bee, "of one tongue", 0, 0, 1, 0, 0, 0, 0, 0, -1, -1, -1, 0);
+  }
+
+  private static void teachBeginsAnewInTheMidst() {
+    // w0 is right for s1 alone; s0 and s2 miss, and go out by it in the second lap; then the second round.
+    String list = list(of(9, 3), of(0, 9, 0), 1) + "round o toll 0 laps 2 words w0;round p toll 0 laps 1 words w1;";
+    String easy = list.replace("knows t 0", "knows t 9");
+    for (String next : new String[] {list, easy}) {
+      for (int turns = 0; turns <= 12; turns++) {
+        BeeTurnpike bee = Check.taught(turns % 2 == 0 ? list : easy);
+        if (turns > 0) {
+          bee.go(turns);
+        }
+        Check.teach(bee, next);
+        BeeTurnpike fresh = Check.taught(next);
+        for (int turn = 0; turn <= 9; turn++) {
+          String when = " behind " + turns + " turns, teach() and " + turn;
+          CHECK.same("digest()" + when, bee.digest(), fresh.digest());
+          CHECK.same("go(1)" + when, bee.go(1), fresh.go(1));
+        }
+      }
+    }
+    // Out in a lap that did not end, and a right word in it: nothing of that is in the lap that begins anew.
+    BeeTurnpike out = Check.taught(list(of(9), of(0, 0), 1) + "round o toll 0 laps 9 words w0;");
+    out.go(3);
+    CHECK.spellers(out, "in the midst of a lap", 0, 0, 1);
+    Check.teach(out, list(of(9), of(0, 0), 1) + "round o toll 0 laps 9 words w0;");
+    out.skip();
+    out.skip();
+    CHECK.spellers(out, "behind a lap of passes", 2, 0, 0);
+    BeeTurnpike right = Check.taught(list(of(9), of(9, 0), 1) + "round o toll 0 laps 9 words w0;");
+    right.go(1);
+    Check.teach(right, list(of(9), of(0, 0), 1) + "round o toll 0 laps 9 words w0;");
+    right.go(2);
+    right.go(2);
+    CHECK.spellers(right, "behind two laps in which nobody was right", 0, 1, 1);
+    Check.teach(right, list(of(9), of(9, 0), 1) + "round o toll 0 laps 9 words w0;");
+    right.go(3);
+    Check.teach(right, list(of(9), of(0, 0), 1) + "round o toll 0 laps 9 words w0;");
+    right.skip();
+    right.go(3);
+    CHECK.spellers(right, "behind a pass and three misses", 0, 1, 1);
   }
 
   private static void teachWithAnErrorLeavesAll() {
@@ -800,6 +845,49 @@ public final class EdgesOfPromisesTest extends Lists {
     }
   }
 
+  private static void foreseeInTheMidst() {
+    // What it told behind so many turns is what count() tells then, wherever it was asked: a right word or
+    // a miss in the lap so far, roots that were heard, the place, the lap, the round, hints and appeals.
+    String[] lists = {
+      LIST,
+      list(of(9), of(0, 0, 0), 1) + "round o toll 0 laps 9 words w0;",
+      list(of(9), of(9, 0, 0), 1) + "round o toll 0 laps 3 words w0;round p toll 7 laps 3 words w0;",
+      list(of(3, 4, 5, 9), of(3, 3, 3), 1) + "round o toll 2 laps 3 words w0 w1 w0 w3 w2;"
+          + "round p toll 9 laps 2 words w3 w0;appeal s0 when in s0;hint s1 when turn > 3;pass s2 when turn = 5;",
+      // x is as hard as one is strong who has heard the root thrice.
+      "tongue t ease 0;root r of t letters 1 hard 1;word w from r;word x from r r r r;"
+          + "speller a passes 0 knows t 2;speller b passes 0 knows t 1;round o toll 0 laps 6 words w w w w w w x;",
+    };
+    for (String list : lists) {
+      BeeTurnpike ahead = Check.taught(list);
+      int[][] told = new int[61][];
+      int turns = 0;
+      for (; turns <= 60 && (turns == 0 || ahead.go(1) == 1); turns++) {
+        told[turns] = tallies(ahead);
+      }
+      for (int from = 0; from < turns; from++) {
+        BeeTurnpike bee = Check.taught(list);
+        if (from > 0) {
+          bee.go(from);
+        }
+        for (int more = 1; more <= 12; more++) {
+          int[] due = told[Math.min(from + more, turns - 1)];
+          for (int what = 10; what <= 16 && from + more <= 60; what++) {
+            CHECK.same("foresee(" + more + ", " + what + ") behind " + from, bee.foresee(more, what), due[what - 10]);
+          }
+        }
+      }
+    }
+  }
+
+  private static int[] tallies(BeeTurnpike bee) {
+    int[] tallies = new int[7];
+    for (int what = 10; what <= 16; what++) {
+      tallies[what - 10] = bee.count(what);
+    }
+    return tallies;
+  }
+
   // ---- Promise 20: "Returns behind how many turns she is out for the first time, if nothing is done by
   //      hand: 0 if she is now; -1 if she is still in as the bee is over (nothing is changed)."
 
@@ -1033,6 +1121,33 @@ public final class EdgesOfPromisesTest extends Lists {
     third.hint();
     third.hint();
     CHECK.same("advise() with two hints taken and no pass", third.advise(), 0);
+  }
+
+  private static void advisePassOfTheLast() {
+    // Of three laps s0 misses the first; her one pass saves her in the second or, by an order, in the third.
+    String list = list(of(8), of(0, 9, 9), 1) + "round o toll 0 laps 3 words w0;";
+    BeeTurnpike last = Check.taught(list + "pass s0 when turn = 6;");
+    last.go(3);
+    last.award(0, 19);
+    // Passed on now, it is gone then: she is out in the second lap, or in the third one.
+    CHECK.same("advise() of the only pass", last.advise(), 0);
+    BeeTurnpike more = Check.taught(list.replace("passes 1", "passes 2") + "pass s0 when turn = 6;");
+    more.go(3);
+    more.award(0, 19);
+    CHECK.same("advise() of two passes", more.advise(), 2);
+  }
+
+  private static void adviseHintOfTheLastPoint() {
+    // One point: with a hint she is right, with 5 and 3 to 8; the order of a second one finds no point.
+    String list = list(of(8), of(5, 0), 0) + "round o toll 3 laps 1 words w0;hint s0 when gap s0 <= 0;";
+    BeeTurnpike bee = Check.taught(list);
+    bee.award(0, 1);
+    bee.award(1, 4);
+    // 3 points by the hint, and both pay the toll; by nothing she has 1, and is out. The rank is 1 both.
+    CHECK.same("advise() of the last point", bee.advise(), 0);
+    bee.award(0, 2);
+    // 3 less 2 for the hints and 3 more for the word are 4, as many as s1 has: the rank 0. By nothing it is 1.
+    CHECK.same("advise() of three points", bee.advise(), 1);
   }
 
   private static void adviseOfWhoIsNotTheFirst() {

@@ -9,6 +9,7 @@ public final class EdgesOfTermsTest extends Lists {
     callsOfOneKind();
     callsOfATaughtBee();
     teachesToTheLastCall();
+    longTestsToTheLastCall();
     refusalsToTheLastCall();
     theGreatestAndTheLeast();
     sumsWrapAround();
@@ -19,6 +20,7 @@ public final class EdgesOfTermsTest extends Lists {
     noughtOnTheRightSide();
     theLeastByMinusOne();
     comparedWithoutWrapping();
+    comparedAtTheEdge();
     positionsFromNought();
     CHECK.end();
   }
@@ -75,6 +77,30 @@ public final class EdgesOfTermsTest extends Lists {
     CHECK.same("errorAt() as the call 510", bee.errorAt(), 16);
     CHECK.same("tongues as the call 511", bee.count(1), 1);
     CHECK.same("bytes of the tape as the call 512", bee.count(17), 0);
+  }
+
+  private static void longTestsToTheLastCall() {
+    // A test of 170 sums, taught as often as 512 calls allow, now and then with an error behind it.
+    StringBuilder sum = new StringBuilder("turn");
+    for (int n = 0; n < 170; n++) {
+      sum.append("+1");
+    }
+    String list = list(of(9), of(0, 0), 1) + "round o toll 0 laps 9 words w0;pass s0 when " + sum + "=170;";
+    BeeTurnpike bee = new BeeTurnpike();
+    int calls = 0;
+    for (int time = 0; time < 14; time++) {
+      boolean wrong = time % 3 == 1;
+      String text = wrong ? list + "hint x when in s0;" : list;
+      calls += (text.length() + 19) / 20 + 4;
+      CHECK.same("teach(), the time " + time, Check.teach(bee, text), wrong ? 3 : 0);
+      CHECK.same("foresee(1, 14), the time " + time, bee.foresee(1, 14), 1);
+      CHECK.same("foresee(2, 12), the time " + time, bee.foresee(2, 12), 1);
+    }
+    CHECK.same("calls of long tests are 512 at most", calls <= 511 ? 1 : 0, 1);
+    for (; calls < 511; calls++) {
+      CHECK.same("the speller on turn", bee.count(8), 0);
+    }
+    CHECK.same("foresee(1, 14) as the call 512", bee.foresee(1, 14), 1);
   }
 
   private static void refusalsToTheLastCall() {
@@ -229,6 +255,25 @@ public final class EdgesOfTermsTest extends Lists {
     equal("min(" + MOST + "," + LEAST + ")", LEAST);
     equal("max(" + LEAST + "," + MOST + ")", MOST);
     equal("max(-1," + LEAST + ")", "-1");
+  }
+
+  private static void comparedAtTheEdge() {
+    String[] signs = {"<", "<=", "=", ">=", ">"};
+    // Of one less, as much, one more on the left side.
+    boolean[][] due = {{true, false, false}, {true, true, false}, {false, true, false}, {false, true, true},
+        {false, false, true}};
+    for (int sign = 0; sign < signs.length; sign++) {
+      for (int left = 4; left <= 6; left++) {
+        String test = left + " " + signs[sign] + " 5";
+        boolean is = due[sign][left - 4];
+        holds(is, test);
+        holds(!is, "not " + test);
+        holds(is, "in s0 and " + test);
+        holds(is, "next s1 or " + test);
+        holds(is, test + " and " + test);
+        holds(is, "-5 " + signs[sign] + " -" + left);
+      }
+    }
   }
 
   // ---- "Positions of the tape are counted from 0, in bytes."
